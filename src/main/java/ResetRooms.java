@@ -1345,7 +1345,7 @@ public final class ResetRooms {
         }
 
         int runOutOfTime() {
-            note("over", NO_NUMBER, NO_NUMBER);
+            log.append(gameMinute(), "over", NO_NUMBER, NO_NUMBER);
             pass(minutesLeft());
             endGame(false);
             return TIME_OVER;

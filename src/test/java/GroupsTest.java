@@ -22,6 +22,10 @@ final class GroupsTest {
         due.is("start 100001", x.book(1, 100001), Due.BAD_VALUE);
         due.is("book(1, 0)", x.book(1, 0), 1);
         due.is("book(6, 500)", x.book(6, 500), 2);
+        ResetRooms y = new ResetRooms();
+        y.book(1, 8);
+        due.is("one waits and wants to start later", y.book(1, 7), Due.NOT_POSSIBLE);
+        due.is("one waits and wants to start then", y.book(1, 8), 2);
         due.is("book(2, 499)", x.book(2, 499), Due.NOT_POSSIBLE);
         due.is("BAD_VALUE ahead of NOT_POSSIBLE", x.book(0, 499), Due.BAD_VALUE);
         due.is("book(2, 500)", x.book(2, 500), 3);

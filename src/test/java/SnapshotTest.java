@@ -7,6 +7,7 @@ final class SnapshotTest {
         allOfTheState();
         inAGame();
         apart();
+        changedBehindIt();
         due.end();
     }
 
@@ -106,6 +107,75 @@ final class SnapshotTest {
         due.is("a game", x.count(14), 1);
         due.is("held", x.game(4), 1);
         due.is("differences at its start", x.giveUp() * 10 + x.result(0, 6), 150);
+    }
+
+    /** All that a snapshot tells is another thing when it is restored. */
+    private static void changedBehindIt() {
+        ResetRooms x = new ResetRooms();
+        x.keep(1);
+        Due.box(x, "0 code 1234");
+        Due.box(x, "0 latch");
+        Due.box(x, "0 latch");
+        x.addProp(0);
+        x.addProp(2);
+        x.addClue(0, 1, 1);
+        x.setExit(2);
+        x.book(2, 4);
+        x.startGame();
+        x.nudge();
+        x.open(1, 0);
+        x.open(3, 0);
+        x.giveUp();
+        x.book(3, 1);
+        x.book(5, 77);
+        x.book(6, 78);
+        x.startGame();
+        x.take(0);
+        x.nudge();
+        x.open(1, 0);
+        x.keep(0);
+        x.giveUp();
+        x.cancel(0);
+        x.cancel(0);
+        x.restore(1);
+        Due.box(x, "0 latch");
+        Due.box(x, "1 latch");
+        x.addProp(1);
+        x.addProp(0);
+        x.setExit(1);
+        x.book(1, 500);
+        x.startGame();
+        x.take(1);
+        x.lay(1, 0);
+        x.nudge();
+        x.open(1, 0);
+        x.book(1, 600);
+        x.book(1, 700);
+        x.close(1);
+        x.startGame();
+        due.is("restore(0)", x.restore(0), 25);
+        int[] game = {3, 15, 50, 1, 1, 1};
+        for (int what = 0; what < game.length; what++) {
+            due.is("game(" + what + ")", x.game(what), game[what]);
+        }
+        int[] result = {2, 4, 4, 11, 0, 1, 0};
+        for (int what = 0; what < result.length; what++) {
+            due.is("result(0, " + what + ")", x.result(0, what), result[what]);
+        }
+        due.is("players of a group", x.group(0, 0) * 10 + x.group(1, 0), 56);
+        due.is("start of a group", x.group(1, 1), 78);
+        due.is("homes", x.prop(0, 0) * 10 + x.prop(1, 0), 2);
+        due.is("the log", Due.log(x), "0:take 0/2:nudge 302/4:open 1/");
+        due.is("what is held", x.prop(0, 1), Due.NONE);
+        due.is("a lock", x.box(1, 1), 2);
+        due.is("an outer box", x.box(2, 0), 0);
+        due.is("the clue", x.clue(0, 2), 1);
+        due.is("wins", x.count(8), 0);
+        due.is("a wrong code", x.open(1, 0), 0);
+        due.is("6 minutes by three players", x.giveUp(), 10 + 6);
+        due.is("wanted start of the result", x.result(1, 1), 1);
+        due.is("nudges of the result", x.result(1, 5), 1);
+        due.is("differences of the result", x.result(1, 6), 1);
     }
 
     private static void apart() {

@@ -161,6 +161,11 @@ final class StepsTest {
         Due.play(x, 1);
         due.is("two with the same ink", x.nextStep(), 400);
         x.giveUp();
+        x.idle(420 - x.count(5));
+        due.is("ink", x.clue(0, 3), 1);
+        Due.play(x, 1);
+        due.is("a unit of ink is enough", x.nextStep(), 400);
+        x.giveUp();
         x.idle(600);
         Due.play(x, 1);
         due.is("no clue has ink", x.nextStep(), 500);

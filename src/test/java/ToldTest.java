@@ -7,6 +7,7 @@ final class ToldTest {
         boxes();
         props();
         clues();
+        digits();
         counts();
         due.end();
     }
@@ -132,6 +133,20 @@ final class ToldTest {
         x.open(2, 0);
         table("clue 0 in a game", clue(x, 0), new int[] {1, 3, 2, 8, 8, 1});
         table("clue 1 in a game", clue(x, 1), new int[] {2, 3, 0, 9, 0, 1});
+    }
+
+    private static void digits() {
+        String[] codes = {"9876", "1000", "0100", "0010", "0001", "9999", "0999"};
+        for (String code : codes) {
+            ResetRooms x = new ResetRooms();
+            x.addProp(0);
+            Due.box(x, "0 code " + code);
+            due.is("the code " + code, x.box(1, 6), Integer.parseInt(code));
+            for (int place = 0; place < 4; place++) {
+                x.addClue(0, 1, place);
+                due.is("digit " + place + " of " + code, x.clue(place, 4), code.charAt(place) - '0');
+            }
+        }
     }
 
     private static void counts() {
