@@ -1236,7 +1236,10 @@ public final class ResetRooms {
 
         void copyFrom(Log other) {
             length = other.length;
-            copyRow(other.signs, signs);
+            // Nobody reads what stands behind the end, so the long rest of the row is spared.
+            for (int i = 0; i < length; i++) {
+                put(signs, i, at(other.signs, i));
+            }
         }
 
         void append(int minute, String word, int first, int second) {
