@@ -332,7 +332,7 @@ final class Model {
         return n;
     }
 
-    private static boolean goesOn(String prefix) {
+    static boolean goesOn(String prefix) {
         Matcher m = TEXT.matcher(prefix);
         return m.matches() || m.hitEnd();
     }
