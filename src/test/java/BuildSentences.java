@@ -1,6 +1,3 @@
-import java.util.function.Supplier;
-import java.util.function.ToIntFunction;
-
 /** The sentences of the promises 1 to 9: what there is. */
 final class BuildSentences {
     private static final String BOX_ERRORS = "-100 minus the fault of the text if it has one (which is an error); UNKNOWN for"
@@ -30,11 +27,6 @@ final class BuildSentences {
         setExit();
         setLimits();
         addPaint();
-    }
-
-    private void refused(int promise, String quote, String call, Supplier<ResetRooms> room, ToIntFunction<ResetRooms> made,
-            int want) {
-        s.test(promise, quote, () -> s.refused(call, room, made, want));
     }
 
     private void newObject() {
@@ -92,7 +84,7 @@ final class BuildSentences {
             x.clearText();
             s.is("type into the text that was emptied", x.type('0'), 1);
         });
-        refused(2, "FULL if it has 20 characters.", "the 21st character", () -> typed("0 latch4567890123456"),
+        s.refused(2, "FULL if it has 20 characters.", "the 21st character", () -> typed("0 latch4567890123456"),
                 x -> x.type('0'), Due.FULL);
         s.test(2, "FULL if it has 20 characters.", () -> {
             ResetRooms x = typed("0 latch456789012345");
@@ -175,7 +167,7 @@ final class BuildSentences {
             s.is("the greatest fault", Due.box(x, "00 code 00000"), -112);
             s.is("an error adds nothing", x.count(0), 1);
         });
-        refused(4, "-100 minus the fault of the text if it has one (which is an error)", "a fault", () -> typed("0 latchx"),
+        s.refused(4, "-100 minus the fault of the text if it has one (which is an error)", "a fault", () -> typed("0 latchx"),
                 ResetRooms::addBox, -107);
     }
 
@@ -193,29 +185,29 @@ final class BuildSentences {
             s.is("a code that is no number of a prop", Due.box(Rooms.house(), "0 code 9999"), 5);
             s.is("a key without props", Due.box(new ResetRooms(), "0 key 0"), Due.UNKNOWN);
         });
-        refused(4, "NOT_POSSIBLE during a game", "addBox()", () -> typedInGame("0 latch"), ResetRooms::addBox, Due.NOT_POSSIBLE);
+        s.refused(4, "NOT_POSSIBLE during a game", "addBox()", () -> typedInGame("0 latch"), ResetRooms::addBox, Due.NOT_POSSIBLE);
         s.test(4, "NOT_POSSIBLE during a game", () -> {
             ResetRooms x = typedInGame("0 latch");
             x.giveUp();
             s.is("after the game", x.addBox(), 5);
         });
-        refused(4, "FULL if there are 12 boxes with the room.", "a 13th box", () -> Rooms.latches(11), ResetRooms::addBox,
+        s.refused(4, "FULL if there are 12 boxes with the room.", "a 13th box", () -> Rooms.latches(11), ResetRooms::addBox,
                 Due.FULL);
         s.test(4, "FULL if there are 12 boxes with the room.", () -> {
             s.is("a 12th box", Rooms.latches(10).addBox(), 11);
         });
         boxError(BOX_ERRORS, "5 latch,", -107);
         boxError(BOX_ERRORS, "5 key 99x", -108);
-        refused(4, BOX_ERRORS, "a fault during a game", () -> typedInGame("0 latches"), ResetRooms::addBox, -107);
-        refused(4, BOX_ERRORS, "UNKNOWN during a game", () -> typedInGame("5 latch"), ResetRooms::addBox, Due.UNKNOWN);
-        refused(4, BOX_ERRORS, "an unknown key during a game", () -> typedInGame("0 key 3"), ResetRooms::addBox, Due.UNKNOWN);
-        refused(4, BOX_ERRORS, "a fault with 12 boxes", () -> full("0 latches", false), ResetRooms::addBox, -107);
-        refused(4, BOX_ERRORS, "UNKNOWN with 12 boxes", () -> full("12 latch", false), ResetRooms::addBox, Due.UNKNOWN);
-        refused(4, BOX_ERRORS, "12 boxes during a game", () -> full("0 latch", true), ResetRooms::addBox, Due.NOT_POSSIBLE);
+        s.refused(4, BOX_ERRORS, "a fault during a game", () -> typedInGame("0 latches"), ResetRooms::addBox, -107);
+        s.refused(4, BOX_ERRORS, "UNKNOWN during a game", () -> typedInGame("5 latch"), ResetRooms::addBox, Due.UNKNOWN);
+        s.refused(4, BOX_ERRORS, "an unknown key during a game", () -> typedInGame("0 key 3"), ResetRooms::addBox, Due.UNKNOWN);
+        s.refused(4, BOX_ERRORS, "a fault with 12 boxes", () -> full("0 latches", false), ResetRooms::addBox, -107);
+        s.refused(4, BOX_ERRORS, "UNKNOWN with 12 boxes", () -> full("12 latch", false), ResetRooms::addBox, Due.UNKNOWN);
+        s.refused(4, BOX_ERRORS, "12 boxes during a game", () -> full("0 latch", true), ResetRooms::addBox, Due.NOT_POSSIBLE);
     }
 
     private void boxError(String quote, String text, int want) {
-        refused(4, quote, "addBox() of \"" + text + "\"", () -> typed(text), ResetRooms::addBox, want);
+        s.refused(4, quote, "addBox() of \"" + text + "\"", () -> typed(text), ResetRooms::addBox, want);
     }
 
     /** A room with 12 boxes and a text. */
@@ -250,14 +242,14 @@ final class BuildSentences {
             }
         });
         for (int home : new int[] {-1, 5, 12, Integer.MAX_VALUE, Integer.MIN_VALUE}) {
-            refused(5, "UNKNOWN", "addProp(" + home + ")", Rooms::house, x -> x.addProp(home), Due.UNKNOWN);
+            s.refused(5, "UNKNOWN", "addProp(" + home + ")", Rooms::house, x -> x.addProp(home), Due.UNKNOWN);
         }
-        refused(5, "NOT_POSSIBLE during a game", "addProp(0)", () -> Rooms.game(1), x -> x.addProp(0), Due.NOT_POSSIBLE);
-        refused(5, "FULL if there are 24 props.", "a 25th prop", () -> Rooms.inked(24, 0), x -> x.addProp(0), Due.FULL);
+        s.refused(5, "NOT_POSSIBLE during a game", "addProp(0)", () -> Rooms.game(1), x -> x.addProp(0), Due.NOT_POSSIBLE);
+        s.refused(5, "FULL if there are 24 props.", "a 25th prop", () -> Rooms.inked(24, 0), x -> x.addProp(0), Due.FULL);
         s.test(5, "FULL if there are 24 props.", () -> s.is("a 24th prop", Rooms.inked(23, 0).addProp(0), 23));
-        refused(5, PROP_ERRORS, "UNKNOWN during a game", () -> Rooms.game(1), x -> x.addProp(5), Due.UNKNOWN);
-        refused(5, PROP_ERRORS, "UNKNOWN with 24 props", () -> Rooms.inked(24, 0), x -> x.addProp(2), Due.UNKNOWN);
-        refused(5, PROP_ERRORS, "24 props during a game", () -> inGame(Rooms.inked(24, 0)), x -> x.addProp(0), Due.NOT_POSSIBLE);
+        s.refused(5, PROP_ERRORS, "UNKNOWN during a game", () -> Rooms.game(1), x -> x.addProp(5), Due.UNKNOWN);
+        s.refused(5, PROP_ERRORS, "UNKNOWN with 24 props", () -> Rooms.inked(24, 0), x -> x.addProp(2), Due.UNKNOWN);
+        s.refused(5, PROP_ERRORS, "24 props during a game", () -> inGame(Rooms.inked(24, 0)), x -> x.addProp(0), Due.NOT_POSSIBLE);
     }
 
     private static ResetRooms inGame(ResetRooms x) {
@@ -307,31 +299,31 @@ final class BuildSentences {
 
     private void clueErrors() {
         for (int number : new int[] {-1, 5, Integer.MAX_VALUE, Integer.MIN_VALUE}) {
-            refused(6, "UNKNOWN", "addClue(" + number + ", 3, 0)", Rooms::house, x -> x.addClue(number, 3, 0), Due.UNKNOWN);
-            refused(6, "UNKNOWN", "addClue(0, " + number + ", 0)", Rooms::house, x -> x.addClue(0, number, 0), Due.UNKNOWN);
+            s.refused(6, "UNKNOWN", "addClue(" + number + ", 3, 0)", Rooms::house, x -> x.addClue(number, 3, 0), Due.UNKNOWN);
+            s.refused(6, "UNKNOWN", "addClue(0, " + number + ", 0)", Rooms::house, x -> x.addClue(0, number, 0), Due.UNKNOWN);
         }
-        refused(6, "UNKNOWN", "the prop behind the last one", Rooms::house, x -> x.addClue(3, 3, 0), Due.UNKNOWN);
+        s.refused(6, "UNKNOWN", "the prop behind the last one", Rooms::house, x -> x.addClue(3, 3, 0), Due.UNKNOWN);
         for (int place : new int[] {-1, 4, Integer.MAX_VALUE, Integer.MIN_VALUE}) {
-            refused(6, "BAD_VALUE", "the place " + place, Rooms::house, x -> x.addClue(0, 3, place), Due.BAD_VALUE);
+            s.refused(6, "BAD_VALUE", "the place " + place, Rooms::house, x -> x.addClue(0, 3, place), Due.BAD_VALUE);
         }
         String noCode = "NOT_POSSIBLE if the box has no lock with a code, or during a game";
         for (int box : new int[] {0, 1, 2, 4}) {
-            refused(6, noCode, "addClue(0, " + box + ", 0)", Rooms::house, x -> x.addClue(0, box, 0), Due.NOT_POSSIBLE);
+            s.refused(6, noCode, "addClue(0, " + box + ", 0)", Rooms::house, x -> x.addClue(0, box, 0), Due.NOT_POSSIBLE);
         }
-        refused(6, noCode, "during a game", () -> Rooms.game(1), x -> x.addClue(0, 3, 0), Due.NOT_POSSIBLE);
-        refused(6, "FULL if there are 12 clues.", "a 13th clue", () -> Rooms.inked(1, 12), x -> x.addClue(0, 1, 0), Due.FULL);
+        s.refused(6, noCode, "during a game", () -> Rooms.game(1), x -> x.addClue(0, 3, 0), Due.NOT_POSSIBLE);
+        s.refused(6, "FULL if there are 12 clues.", "a 13th clue", () -> Rooms.inked(1, 12), x -> x.addClue(0, 1, 0), Due.FULL);
         s.test(6, "FULL if there are 12 clues.", () -> s.is("a 12th", Rooms.inked(1, 11).addClue(0, 1, 0), 11));
-        refused(6, CLUE_ERRORS, "an unknown prop and a bad place", Rooms::house, x -> x.addClue(3, 3, 4), Due.UNKNOWN);
-        refused(6, CLUE_ERRORS, "an unknown box and a bad place", Rooms::house, x -> x.addClue(0, 5, 4), Due.UNKNOWN);
-        refused(6, CLUE_ERRORS, "an unknown prop and no code", Rooms::house, x -> x.addClue(3, 1, 0), Due.UNKNOWN);
-        refused(6, CLUE_ERRORS, "an unknown prop during a game", () -> Rooms.game(1), x -> x.addClue(3, 3, 0), Due.UNKNOWN);
-        refused(6, CLUE_ERRORS, "an unknown box during a game", () -> Rooms.game(1), x -> x.addClue(0, 5, 0), Due.UNKNOWN);
-        refused(6, CLUE_ERRORS, "an unknown box with 12 clues", () -> Rooms.inked(1, 12), x -> x.addClue(0, 2, 0), Due.UNKNOWN);
-        refused(6, CLUE_ERRORS, "a bad place and no code", Rooms::house, x -> x.addClue(0, 0, 4), Due.BAD_VALUE);
-        refused(6, CLUE_ERRORS, "a bad place during a game", () -> Rooms.game(1), x -> x.addClue(0, 3, -1), Due.BAD_VALUE);
-        refused(6, CLUE_ERRORS, "a bad place with 12 clues", () -> Rooms.inked(1, 12), x -> x.addClue(0, 1, 4), Due.BAD_VALUE);
-        refused(6, CLUE_ERRORS, "no code with 12 clues", () -> Rooms.inked(1, 12), x -> x.addClue(0, 0, 0), Due.NOT_POSSIBLE);
-        refused(6, CLUE_ERRORS, "12 clues during a game", () -> inGame(Rooms.inked(1, 12)), x -> x.addClue(0, 1, 0),
+        s.refused(6, CLUE_ERRORS, "an unknown prop and a bad place", Rooms::house, x -> x.addClue(3, 3, 4), Due.UNKNOWN);
+        s.refused(6, CLUE_ERRORS, "an unknown box and a bad place", Rooms::house, x -> x.addClue(0, 5, 4), Due.UNKNOWN);
+        s.refused(6, CLUE_ERRORS, "an unknown prop and no code", Rooms::house, x -> x.addClue(3, 1, 0), Due.UNKNOWN);
+        s.refused(6, CLUE_ERRORS, "an unknown prop during a game", () -> Rooms.game(1), x -> x.addClue(3, 3, 0), Due.UNKNOWN);
+        s.refused(6, CLUE_ERRORS, "an unknown box during a game", () -> Rooms.game(1), x -> x.addClue(0, 5, 0), Due.UNKNOWN);
+        s.refused(6, CLUE_ERRORS, "an unknown box with 12 clues", () -> Rooms.inked(1, 12), x -> x.addClue(0, 2, 0), Due.UNKNOWN);
+        s.refused(6, CLUE_ERRORS, "a bad place and no code", Rooms::house, x -> x.addClue(0, 0, 4), Due.BAD_VALUE);
+        s.refused(6, CLUE_ERRORS, "a bad place during a game", () -> Rooms.game(1), x -> x.addClue(0, 3, -1), Due.BAD_VALUE);
+        s.refused(6, CLUE_ERRORS, "a bad place with 12 clues", () -> Rooms.inked(1, 12), x -> x.addClue(0, 1, 4), Due.BAD_VALUE);
+        s.refused(6, CLUE_ERRORS, "no code with 12 clues", () -> Rooms.inked(1, 12), x -> x.addClue(0, 0, 0), Due.NOT_POSSIBLE);
+        s.refused(6, CLUE_ERRORS, "12 clues during a game", () -> inGame(Rooms.inked(1, 12)), x -> x.addClue(0, 1, 0),
                 Due.NOT_POSSIBLE);
     }
 
@@ -362,15 +354,15 @@ final class BuildSentences {
             s.is("the box 2", x.setExit(1), 2);
         });
         for (int box : new int[] {-1, 5, Integer.MAX_VALUE, Integer.MIN_VALUE}) {
-            refused(7, "UNKNOWN", "setExit(" + box + ")", Rooms::house, x -> x.setExit(box), Due.UNKNOWN);
+            s.refused(7, "UNKNOWN", "setExit(" + box + ")", Rooms::house, x -> x.setExit(box), Due.UNKNOWN);
         }
-        refused(7, "BAD_VALUE for the room", "setExit(0)", Rooms::house, x -> x.setExit(0), Due.BAD_VALUE);
-        refused(7, "BAD_VALUE for the room", "setExit(0) without an exit", ResetRooms::new, x -> x.setExit(0), Due.BAD_VALUE);
-        refused(7, "NOT_POSSIBLE during a game", "setExit(1)", () -> Rooms.game(1), x -> x.setExit(1), Due.NOT_POSSIBLE);
-        refused(7, "NONE if it is so already.", "setExit(3)", Rooms::house, x -> x.setExit(3), Due.NONE);
-        refused(7, EXIT_ERRORS, "setExit(5) during a game", () -> Rooms.game(1), x -> x.setExit(5), Due.UNKNOWN);
-        refused(7, EXIT_ERRORS, "setExit(0) during a game", () -> Rooms.game(1), x -> x.setExit(0), Due.BAD_VALUE);
-        refused(7, EXIT_ERRORS, "setExit(3) during a game", () -> Rooms.game(1), x -> x.setExit(3), Due.NOT_POSSIBLE);
+        s.refused(7, "BAD_VALUE for the room", "setExit(0)", Rooms::house, x -> x.setExit(0), Due.BAD_VALUE);
+        s.refused(7, "BAD_VALUE for the room", "setExit(0) without an exit", ResetRooms::new, x -> x.setExit(0), Due.BAD_VALUE);
+        s.refused(7, "NOT_POSSIBLE during a game", "setExit(1)", () -> Rooms.game(1), x -> x.setExit(1), Due.NOT_POSSIBLE);
+        s.refused(7, "NONE if it is so already.", "setExit(3)", Rooms::house, x -> x.setExit(3), Due.NONE);
+        s.refused(7, EXIT_ERRORS, "setExit(5) during a game", () -> Rooms.game(1), x -> x.setExit(5), Due.UNKNOWN);
+        s.refused(7, EXIT_ERRORS, "setExit(0) during a game", () -> Rooms.game(1), x -> x.setExit(0), Due.BAD_VALUE);
+        s.refused(7, EXIT_ERRORS, "setExit(3) during a game", () -> Rooms.game(1), x -> x.setExit(3), Due.NOT_POSSIBLE);
     }
 
     private void setLimits() {
@@ -405,22 +397,22 @@ final class BuildSentences {
             s.is("the fourth one", x.setLimits(91, 5), 90);
         });
         for (int minutes : new int[] {9, 121, 0, -10, Integer.MAX_VALUE, Integer.MIN_VALUE}) {
-            refused(8, "BAD_VALUE", minutes + " minutes", Rooms::house, x -> x.setLimits(minutes, 4), Due.BAD_VALUE);
+            s.refused(8, "BAD_VALUE", minutes + " minutes", Rooms::house, x -> x.setLimits(minutes, 4), Due.BAD_VALUE);
         }
         for (int nudges : new int[] {-1, 10, Integer.MAX_VALUE, Integer.MIN_VALUE}) {
-            refused(8, "BAD_VALUE", nudges + " nudges", Rooms::house, x -> x.setLimits(50, nudges), Due.BAD_VALUE);
+            s.refused(8, "BAD_VALUE", nudges + " nudges", Rooms::house, x -> x.setLimits(50, nudges), Due.BAD_VALUE);
         }
-        refused(8, "NOT_POSSIBLE during a game", "setLimits", () -> Rooms.game(1), x -> x.setLimits(50, 5), Due.NOT_POSSIBLE);
-        refused(8, "NONE if both are so already.", "both", Rooms::house, x -> x.setLimits(60, 3), Due.NONE);
+        s.refused(8, "NOT_POSSIBLE during a game", "setLimits", () -> Rooms.game(1), x -> x.setLimits(50, 5), Due.NOT_POSSIBLE);
+        s.refused(8, "NONE if both are so already.", "both", Rooms::house, x -> x.setLimits(60, 3), Due.NONE);
         s.test(8, "NONE if both are so already.", () -> {
             ResetRooms x = Rooms.house();
             s.is("the limit alone", x.setLimits(60, 4), 60);
             s.is("the nudges alone", x.setLimits(61, 4), 60);
             s.is("both", x.setLimits(61, 4), Due.NONE);
         });
-        refused(8, LIMIT_ERRORS, "9 minutes during a game", () -> Rooms.game(1), x -> x.setLimits(9, 3), Due.BAD_VALUE);
-        refused(8, LIMIT_ERRORS, "10 nudges during a game", () -> Rooms.game(1), x -> x.setLimits(60, 10), Due.BAD_VALUE);
-        refused(8, LIMIT_ERRORS, "both during a game", () -> Rooms.game(1), x -> x.setLimits(60, 3), Due.NOT_POSSIBLE);
+        s.refused(8, LIMIT_ERRORS, "9 minutes during a game", () -> Rooms.game(1), x -> x.setLimits(9, 3), Due.BAD_VALUE);
+        s.refused(8, LIMIT_ERRORS, "10 nudges during a game", () -> Rooms.game(1), x -> x.setLimits(60, 10), Due.BAD_VALUE);
+        s.refused(8, LIMIT_ERRORS, "both during a game", () -> Rooms.game(1), x -> x.setLimits(60, 3), Due.NOT_POSSIBLE);
     }
 
     private void addPaint() {
@@ -451,7 +443,7 @@ final class BuildSentences {
             }
         });
         for (int units : new int[] {0, -1, 1001, Integer.MAX_VALUE, Integer.MIN_VALUE}) {
-            refused(9, "BAD_VALUE", "addPaint(" + units + ")", Rooms::house, x -> x.addPaint(units), Due.BAD_VALUE);
+            s.refused(9, "BAD_VALUE", "addPaint(" + units + ")", Rooms::house, x -> x.addPaint(units), Due.BAD_VALUE);
         }
     }
 }

@@ -46,11 +46,6 @@ final class GameSentences {
         giveUp();
     }
 
-    private void refused(int promise, String quote, String call, Supplier<ResetRooms> room, ToIntFunction<ResetRooms> made,
-            int want) {
-        s.test(promise, quote, () -> s.refused(call, room, made, want));
-    }
-
     /** The act has an entry, takes its minutes, is done at the last minute and is over by time a minute later. */
     private void isAct(int promise, Supplier<ResetRooms> room, ToIntFunction<ResetRooms> act, int minutes, String entry) {
         s.test(promise, ACT, () -> {
@@ -117,13 +112,13 @@ final class GameSentences {
             s.is("after two that were cancelled", x.book(1, 0), 7);
         });
         for (int players : new int[] {0, 7, -1, Integer.MAX_VALUE, Integer.MIN_VALUE}) {
-            refused(10, "BAD_VALUE", players + " players", Rooms::house, x -> x.book(players, 0), Due.BAD_VALUE);
+            s.refused(10, "BAD_VALUE", players + " players", Rooms::house, x -> x.book(players, 0), Due.BAD_VALUE);
         }
         for (int start : new int[] {-1, 100001, Integer.MAX_VALUE, Integer.MIN_VALUE}) {
-            refused(10, "BAD_VALUE", "the start " + start, Rooms::house, x -> x.book(1, start), Due.BAD_VALUE);
+            s.refused(10, "BAD_VALUE", "the start " + start, Rooms::house, x -> x.book(1, start), Due.BAD_VALUE);
         }
         String later = "NOT_POSSIBLE if the last one of the groups that wait wants to start later";
-        refused(10, later, "a minute earlier", () -> Rooms.booked(1), x -> x.book(1, 49), Due.NOT_POSSIBLE);
+        s.refused(10, later, "a minute earlier", () -> Rooms.booked(1), x -> x.book(1, 49), Due.NOT_POSSIBLE);
         s.test(10, later, () -> {
             ResetRooms x = Rooms.booked(1);
             s.is("at the same minute", x.book(1, 50), 2);
@@ -136,12 +131,12 @@ final class GameSentences {
             s.is("the group that plays does not wait", y.book(1, 0), 1);
             s.is("a start that is past by then", y.book(1, 5), 2);
         });
-        refused(10, "FULL if 8 groups wait.", "a ninth group", () -> Rooms.booked(8), x -> x.book(1, 50), Due.FULL);
+        s.refused(10, "FULL if 8 groups wait.", "a ninth group", () -> Rooms.booked(8), x -> x.book(1, 50), Due.FULL);
         s.test(10, "FULL if 8 groups wait.", () -> s.is("an eighth", Rooms.booked(7).book(1, 50), 8));
-        refused(10, BOOK_ERRORS, "0 players, earlier", () -> Rooms.booked(1), x -> x.book(0, 49), Due.BAD_VALUE);
-        refused(10, BOOK_ERRORS, "the start -1, earlier", () -> Rooms.booked(1), x -> x.book(1, -1), Due.BAD_VALUE);
-        refused(10, BOOK_ERRORS, "7 players, a ninth group", () -> Rooms.booked(8), x -> x.book(7, 50), Due.BAD_VALUE);
-        refused(10, BOOK_ERRORS, "a ninth group, earlier", () -> Rooms.booked(8), x -> x.book(1, 49), Due.NOT_POSSIBLE);
+        s.refused(10, BOOK_ERRORS, "0 players, earlier", () -> Rooms.booked(1), x -> x.book(0, 49), Due.BAD_VALUE);
+        s.refused(10, BOOK_ERRORS, "the start -1, earlier", () -> Rooms.booked(1), x -> x.book(1, -1), Due.BAD_VALUE);
+        s.refused(10, BOOK_ERRORS, "7 players, a ninth group", () -> Rooms.booked(8), x -> x.book(7, 50), Due.BAD_VALUE);
+        s.refused(10, BOOK_ERRORS, "a ninth group, earlier", () -> Rooms.booked(8), x -> x.book(1, 49), Due.NOT_POSSIBLE);
     }
 
     private static ResetRooms threeGroups() {
@@ -180,9 +175,9 @@ final class GameSentences {
             s.is("cancel(0)", x.cancel(0), 0);
         });
         for (int group : new int[] {-1, 3, 8, Integer.MAX_VALUE, Integer.MIN_VALUE}) {
-            refused(11, "UNKNOWN", "cancel(" + group + ")", GameSentences::threeGroups, x -> x.cancel(group), Due.UNKNOWN);
+            s.refused(11, "UNKNOWN", "cancel(" + group + ")", GameSentences::threeGroups, x -> x.cancel(group), Due.UNKNOWN);
         }
-        refused(11, "UNKNOWN", "no group waits", Rooms::house, x -> x.cancel(0), Due.UNKNOWN);
+        s.refused(11, "UNKNOWN", "no group waits", Rooms::house, x -> x.cancel(0), Due.UNKNOWN);
     }
 
     private void startGame() {
@@ -211,14 +206,14 @@ final class GameSentences {
             s.is("1030 minutes late", x.startGame(), 1030);
         });
         String reasons = "NOT_POSSIBLE during a game, if no group waits, or if there is no exit or it is open";
-        refused(12, reasons, "during a game", () -> {
+        s.refused(12, reasons, "during a game", () -> {
             ResetRooms x = threeGroups();
             x.startGame();
             return x;
         }, ResetRooms::startGame, Due.NOT_POSSIBLE);
-        refused(12, reasons, "no group waits", Rooms::house, ResetRooms::startGame, Due.NOT_POSSIBLE);
-        refused(12, reasons, "no exit", GameSentences::noExit, ResetRooms::startGame, Due.NOT_POSSIBLE);
-        refused(12, reasons, "an open exit", GameSentences::openExit, ResetRooms::startGame, Due.NOT_POSSIBLE);
+        s.refused(12, reasons, "no group waits", Rooms::house, ResetRooms::startGame, Due.NOT_POSSIBLE);
+        s.refused(12, reasons, "no exit", GameSentences::noExit, ResetRooms::startGame, Due.NOT_POSSIBLE);
+        s.refused(12, reasons, "an open exit", GameSentences::openExit, ResetRooms::startGame, Due.NOT_POSSIBLE);
         s.test(12, reasons, () -> {
             ResetRooms x = openExit();
             x.close(1);
@@ -248,7 +243,7 @@ final class GameSentences {
     }
 
     private void startErrors() {
-        refused(12, "FULL if there are 30 results.", "a 31st game", () -> {
+        s.refused(12, "FULL if there are 30 results.", "a 31st game", () -> {
             ResetRooms x = Rooms.results(30);
             x.book(1, 5);
             return x;
@@ -258,8 +253,8 @@ final class GameSentences {
             x.book(1, 5);
             s.is("a 30th game", x.startGame(), 0);
         });
-        refused(12, START_ERRORS, "30 results, no group", () -> Rooms.results(30), ResetRooms::startGame, Due.NOT_POSSIBLE);
-        refused(12, START_ERRORS, "30 results, an open exit", () -> {
+        s.refused(12, START_ERRORS, "30 results, no group", () -> Rooms.results(30), ResetRooms::startGame, Due.NOT_POSSIBLE);
+        s.refused(12, START_ERRORS, "30 results, an open exit", () -> {
             ResetRooms x = Rooms.results(29);
             Due.play(x, 1);
             x.open(1, 0);
@@ -294,13 +289,13 @@ final class GameSentences {
             s.is("after two were laid", x.take(3), 5);
         });
         for (int prop : new int[] {3, -1, Integer.MAX_VALUE, Integer.MIN_VALUE}) {
-            refused(13, "UNKNOWN", "take(" + prop + ")", () -> Rooms.game(1), x -> x.take(prop), Due.UNKNOWN);
+            s.refused(13, "UNKNOWN", "take(" + prop + ")", () -> Rooms.game(1), x -> x.take(prop), Due.UNKNOWN);
         }
         String reasons = "NOT_POSSIBLE if there is no game, or the prop is held or not at hand";
-        refused(13, reasons, "no game", Rooms::house, x -> x.take(0), Due.NOT_POSSIBLE);
-        refused(13, reasons, "a held prop", () -> holding(2), x -> x.take(0), Due.NOT_POSSIBLE);
-        refused(13, reasons, "a prop in a closed box", () -> Rooms.game(2), x -> x.take(2), Due.NOT_POSSIBLE);
-        refused(13, "FULL if the group holds as many as it can", "a second prop for 1", () -> holding(1), x -> x.take(1),
+        s.refused(13, reasons, "no game", Rooms::house, x -> x.take(0), Due.NOT_POSSIBLE);
+        s.refused(13, reasons, "a held prop", () -> holding(2), x -> x.take(0), Due.NOT_POSSIBLE);
+        s.refused(13, reasons, "a prop in a closed box", () -> Rooms.game(2), x -> x.take(2), Due.NOT_POSSIBLE);
+        s.refused(13, "FULL if the group holds as many as it can", "a second prop for 1", () -> holding(1), x -> x.take(1),
                 Due.FULL);
         s.test(13, "FULL if the group holds as many as it can", () -> {
             for (int players = 1; players <= 6; players++) {
@@ -314,14 +309,14 @@ final class GameSentences {
                 s.is("with a free hand", x.take(6), players);
             }
         });
-        refused(13, TAKE_ERRORS, "an unknown prop without a game", Rooms::house, x -> x.take(3), Due.UNKNOWN);
-        refused(13, TAKE_ERRORS, "an unknown prop with full hands", () -> holding(1), x -> x.take(3), Due.UNKNOWN);
-        refused(13, TAKE_ERRORS, "an unknown prop without time", () -> Rooms.gameWith(1, 0), x -> x.take(3), Due.UNKNOWN);
-        refused(13, TAKE_ERRORS, "a held prop with full hands", () -> holding(1), x -> x.take(0), Due.NOT_POSSIBLE);
-        refused(13, TAKE_ERRORS, "not at hand, full hands", () -> holding(1), x -> x.take(2), Due.NOT_POSSIBLE);
-        refused(13, TAKE_ERRORS, "not at hand, no time", () -> Rooms.gameWith(1, 0), x -> x.take(2), Due.NOT_POSSIBLE);
-        refused(13, TAKE_ERRORS, "held, no time", () -> late(holding(2)), x -> x.take(0), Due.NOT_POSSIBLE);
-        refused(13, TAKE_ERRORS, "full hands, no time", () -> late(holding(1)), x -> x.take(1), Due.FULL);
+        s.refused(13, TAKE_ERRORS, "an unknown prop without a game", Rooms::house, x -> x.take(3), Due.UNKNOWN);
+        s.refused(13, TAKE_ERRORS, "an unknown prop with full hands", () -> holding(1), x -> x.take(3), Due.UNKNOWN);
+        s.refused(13, TAKE_ERRORS, "an unknown prop without time", () -> Rooms.gameWith(1, 0), x -> x.take(3), Due.UNKNOWN);
+        s.refused(13, TAKE_ERRORS, "a held prop with full hands", () -> holding(1), x -> x.take(0), Due.NOT_POSSIBLE);
+        s.refused(13, TAKE_ERRORS, "not at hand, full hands", () -> holding(1), x -> x.take(2), Due.NOT_POSSIBLE);
+        s.refused(13, TAKE_ERRORS, "not at hand, no time", () -> Rooms.gameWith(1, 0), x -> x.take(2), Due.NOT_POSSIBLE);
+        s.refused(13, TAKE_ERRORS, "held, no time", () -> late(holding(2)), x -> x.take(0), Due.NOT_POSSIBLE);
+        s.refused(13, TAKE_ERRORS, "full hands, no time", () -> late(holding(1)), x -> x.take(1), Due.FULL);
     }
 
     /** A game in which the prop 0 is held. */
@@ -380,32 +375,32 @@ final class GameSentences {
 
     private void layErrors() {
         for (int number : FAR_NUMBERS) {
-            refused(14, "UNKNOWN", "lay(" + number + ", 0)", () -> holding(1), x -> x.lay(number, 0), Due.UNKNOWN);
-            refused(14, "UNKNOWN", "lay(0, " + number + ")", () -> holding(1), x -> x.lay(0, number), Due.UNKNOWN);
+            s.refused(14, "UNKNOWN", "lay(" + number + ", 0)", () -> holding(1), x -> x.lay(number, 0), Due.UNKNOWN);
+            s.refused(14, "UNKNOWN", "lay(0, " + number + ")", () -> holding(1), x -> x.lay(0, number), Due.UNKNOWN);
         }
-        refused(14, "UNKNOWN", "lay(3, 0)", () -> holding(1), x -> x.lay(3, 0), Due.UNKNOWN);
-        refused(14, "UNKNOWN", "lay(0, 5)", () -> holding(1), x -> x.lay(0, 5), Due.UNKNOWN);
+        s.refused(14, "UNKNOWN", "lay(3, 0)", () -> holding(1), x -> x.lay(3, 0), Due.UNKNOWN);
+        s.refused(14, "UNKNOWN", "lay(0, 5)", () -> holding(1), x -> x.lay(0, 5), Due.UNKNOWN);
         String reasons = "NOT_POSSIBLE if there is no game, the prop is not held, or the box is not open or not at hand";
-        refused(14, reasons, "no game", Rooms::house, x -> x.lay(0, 0), Due.NOT_POSSIBLE);
-        refused(14, reasons, "a prop that is not held", () -> holding(1), x -> x.lay(1, 0), Due.NOT_POSSIBLE);
-        refused(14, reasons, "a prop that is not at hand", () -> holding(1), x -> x.lay(2, 0), Due.NOT_POSSIBLE);
-        refused(14, reasons, "into a closed box", () -> holding(1), x -> x.lay(0, 4), Due.NOT_POSSIBLE);
-        refused(14, reasons, "into a closed box in a closed one", () -> holding(1), x -> x.lay(0, 2), Due.NOT_POSSIBLE);
-        refused(14, reasons, "into an open box in a closed one", GameSentences::openInClosed, x -> x.lay(0, 2),
+        s.refused(14, reasons, "no game", Rooms::house, x -> x.lay(0, 0), Due.NOT_POSSIBLE);
+        s.refused(14, reasons, "a prop that is not held", () -> holding(1), x -> x.lay(1, 0), Due.NOT_POSSIBLE);
+        s.refused(14, reasons, "a prop that is not at hand", () -> holding(1), x -> x.lay(2, 0), Due.NOT_POSSIBLE);
+        s.refused(14, reasons, "into a closed box", () -> holding(1), x -> x.lay(0, 4), Due.NOT_POSSIBLE);
+        s.refused(14, reasons, "into a closed box in a closed one", () -> holding(1), x -> x.lay(0, 2), Due.NOT_POSSIBLE);
+        s.refused(14, reasons, "into an open box in a closed one", GameSentences::openInClosed, x -> x.lay(0, 2),
                 Due.NOT_POSSIBLE);
-        refused(14, reasons, "into the closed one around it", GameSentences::openInClosed, x -> x.lay(0, 1), Due.NOT_POSSIBLE);
+        s.refused(14, reasons, "into the closed one around it", GameSentences::openInClosed, x -> x.lay(0, 1), Due.NOT_POSSIBLE);
         s.test(14, reasons, () -> {
             ResetRooms x = openInClosed();
             x.open(1, 0);
             s.is("into an open box in an open one", x.lay(0, 2), 0);
         });
-        refused(14, LAY_ERRORS, "an unknown prop without a game", Rooms::house, x -> x.lay(3, 0), Due.UNKNOWN);
-        refused(14, LAY_ERRORS, "an unknown box without a game", Rooms::house, x -> x.lay(0, 5), Due.UNKNOWN);
-        refused(14, LAY_ERRORS, "an unknown box, not held", () -> holding(1), x -> x.lay(1, 5), Due.UNKNOWN);
-        refused(14, LAY_ERRORS, "an unknown prop, a closed box", () -> holding(1), x -> x.lay(3, 4), Due.UNKNOWN);
-        refused(14, LAY_ERRORS, "an unknown prop without time", () -> late(holding(1)), x -> x.lay(3, 0), Due.UNKNOWN);
-        refused(14, LAY_ERRORS, "not held, no time", () -> late(holding(1)), x -> x.lay(1, 0), Due.NOT_POSSIBLE);
-        refused(14, LAY_ERRORS, "a closed box, no time", () -> late(holding(1)), x -> x.lay(0, 4), Due.NOT_POSSIBLE);
+        s.refused(14, LAY_ERRORS, "an unknown prop without a game", Rooms::house, x -> x.lay(3, 0), Due.UNKNOWN);
+        s.refused(14, LAY_ERRORS, "an unknown box without a game", Rooms::house, x -> x.lay(0, 5), Due.UNKNOWN);
+        s.refused(14, LAY_ERRORS, "an unknown box, not held", () -> holding(1), x -> x.lay(1, 5), Due.UNKNOWN);
+        s.refused(14, LAY_ERRORS, "an unknown prop, a closed box", () -> holding(1), x -> x.lay(3, 4), Due.UNKNOWN);
+        s.refused(14, LAY_ERRORS, "an unknown prop without time", () -> late(holding(1)), x -> x.lay(3, 0), Due.UNKNOWN);
+        s.refused(14, LAY_ERRORS, "not held, no time", () -> late(holding(1)), x -> x.lay(1, 0), Due.NOT_POSSIBLE);
+        s.refused(14, LAY_ERRORS, "a closed box, no time", () -> late(holding(1)), x -> x.lay(0, 4), Due.NOT_POSSIBLE);
     }
 
     /** A game in which the prop 0 is held, the box 2 is open and the box 1 around it is closed. */
@@ -484,43 +479,43 @@ final class GameSentences {
 
     private void openErrors() {
         for (int box : new int[] {5, -1, Integer.MAX_VALUE, Integer.MIN_VALUE}) {
-            refused(15, "UNKNOWN", "open(" + box + ", 0)", () -> Rooms.game(1), x -> x.open(box, 0), Due.UNKNOWN);
+            s.refused(15, "UNKNOWN", "open(" + box + ", 0)", () -> Rooms.game(1), x -> x.open(box, 0), Due.UNKNOWN);
         }
-        refused(15, OPEN_REASONS, "no game", Rooms::house, x -> x.open(1, 0), Due.NOT_POSSIBLE);
-        refused(15, OPEN_REASONS, "the room", () -> Rooms.game(1), x -> x.open(0, 0), Due.NOT_POSSIBLE);
-        refused(15, OPEN_REASONS, "an open box", () -> opened(1), x -> x.open(1, 0), Due.NOT_POSSIBLE);
-        refused(15, OPEN_REASONS, "not at hand", () -> holding(1), x -> x.open(2, 0), Due.NOT_POSSIBLE);
-        refused(15, OPEN_REASONS, "open and not at hand", GameSentences::openInClosed, x -> x.open(2, 0), Due.NOT_POSSIBLE);
-        refused(15, OPEN_REASONS, "its key is not held", () -> opened(1), x -> x.open(2, 0), Due.NOT_POSSIBLE);
-        refused(15, OPEN_REASONS, "another prop is held", () -> {
+        s.refused(15, OPEN_REASONS, "no game", Rooms::house, x -> x.open(1, 0), Due.NOT_POSSIBLE);
+        s.refused(15, OPEN_REASONS, "the room", () -> Rooms.game(1), x -> x.open(0, 0), Due.NOT_POSSIBLE);
+        s.refused(15, OPEN_REASONS, "an open box", () -> opened(1), x -> x.open(1, 0), Due.NOT_POSSIBLE);
+        s.refused(15, OPEN_REASONS, "not at hand", () -> holding(1), x -> x.open(2, 0), Due.NOT_POSSIBLE);
+        s.refused(15, OPEN_REASONS, "open and not at hand", GameSentences::openInClosed, x -> x.open(2, 0), Due.NOT_POSSIBLE);
+        s.refused(15, OPEN_REASONS, "its key is not held", () -> opened(1), x -> x.open(2, 0), Due.NOT_POSSIBLE);
+        s.refused(15, OPEN_REASONS, "another prop is held", () -> {
             ResetRooms x = opened(1);
             x.take(1);
             return x;
         }, x -> x.open(2, 0), Due.NOT_POSSIBLE);
-        refused(15, OPEN_REASONS, "its key lies in its outer box", () -> {
+        s.refused(15, OPEN_REASONS, "its key lies in its outer box", () -> {
             ResetRooms x = opened(1);
             x.take(0);
             x.lay(0, 1);
             return x;
         }, x -> x.open(2, 0), Due.NOT_POSSIBLE);
-        refused(15, OPEN_REASONS, "the prop of its plate is held", () -> {
+        s.refused(15, OPEN_REASONS, "the prop of its plate is held", () -> {
             ResetRooms x = opened(1);
             x.take(1);
             return x;
         }, x -> x.open(4, 0), Due.NOT_POSSIBLE);
-        refused(15, OPEN_REASONS, "the prop of its plate lies in another box", () -> {
+        s.refused(15, OPEN_REASONS, "the prop of its plate lies in another box", () -> {
             ResetRooms x = opened(1);
             x.take(1);
             x.lay(1, 1);
             return x;
         }, x -> x.open(4, 0), Due.NOT_POSSIBLE);
-        refused(15, OPEN_REASONS, "an open box with a code that is wrong", GameSentences::openCode, x -> x.open(3, 1),
+        s.refused(15, OPEN_REASONS, "an open box with a code that is wrong", GameSentences::openCode, x -> x.open(3, 1),
                 Due.NOT_POSSIBLE);
-        refused(15, OPEN_ERRORS, "unknown without a game", Rooms::house, x -> x.open(5, 0), Due.UNKNOWN);
-        refused(15, OPEN_ERRORS, "unknown without time", () -> Rooms.gameWith(1, 0), x -> x.open(5, 0), Due.UNKNOWN);
-        refused(15, OPEN_ERRORS, "open, no time", () -> late(opened(1)), x -> x.open(1, 0), Due.NOT_POSSIBLE);
-        refused(15, OPEN_ERRORS, "not at hand, no time", () -> Rooms.gameWith(1, 0), x -> x.open(2, 0), Due.NOT_POSSIBLE);
-        refused(15, OPEN_ERRORS, "key not held, no time", () -> late(opened(1)), x -> x.open(2, 0), Due.NOT_POSSIBLE);
+        s.refused(15, OPEN_ERRORS, "unknown without a game", Rooms::house, x -> x.open(5, 0), Due.UNKNOWN);
+        s.refused(15, OPEN_ERRORS, "unknown without time", () -> Rooms.gameWith(1, 0), x -> x.open(5, 0), Due.UNKNOWN);
+        s.refused(15, OPEN_ERRORS, "open, no time", () -> late(opened(1)), x -> x.open(1, 0), Due.NOT_POSSIBLE);
+        s.refused(15, OPEN_ERRORS, "not at hand, no time", () -> Rooms.gameWith(1, 0), x -> x.open(2, 0), Due.NOT_POSSIBLE);
+        s.refused(15, OPEN_ERRORS, "key not held, no time", () -> late(opened(1)), x -> x.open(2, 0), Due.NOT_POSSIBLE);
     }
 
     private static ResetRooms opened(int players) {
@@ -607,28 +602,28 @@ final class GameSentences {
 
     private void readErrors() {
         for (int clue : new int[] {2, -1, Integer.MAX_VALUE, Integer.MIN_VALUE}) {
-            refused(16, "UNKNOWN", "read(" + clue + ")", () -> Rooms.game(1), x -> x.read(clue), Due.UNKNOWN);
+            s.refused(16, "UNKNOWN", "read(" + clue + ")", () -> Rooms.game(1), x -> x.read(clue), Due.UNKNOWN);
         }
         String reasons = "NOT_POSSIBLE if there is no game, or the clue is not at hand";
-        refused(16, reasons, "no game", Rooms::house, x -> x.read(0), Due.NOT_POSSIBLE);
-        refused(16, reasons, "not at hand", () -> Rooms.game(1), x -> x.read(1), Due.NOT_POSSIBLE);
-        refused(16, "NONE if it has no ink", "no ink", () -> pale(0, 1), x -> x.read(0), Due.NONE);
+        s.refused(16, reasons, "no game", Rooms::house, x -> x.read(0), Due.NOT_POSSIBLE);
+        s.refused(16, reasons, "not at hand", () -> Rooms.game(1), x -> x.read(1), Due.NOT_POSSIBLE);
+        s.refused(16, "NONE if it has no ink", "no ink", () -> pale(0, 1), x -> x.read(0), Due.NONE);
         s.test(16, "NONE if it has no ink", () -> {
             ResetRooms x = pale(1, 1);
             s.is("the last unit", x.read(0), 5);
             s.is("no ink", x.read(0), Due.NONE);
             s.is("what was read is known", x.box(1, 7), 1);
         });
-        refused(16, READ_ERRORS, "unknown without a game", Rooms::house, x -> x.read(2), Due.UNKNOWN);
-        refused(16, READ_ERRORS, "unknown without time", () -> Rooms.gameWith(1, 0), x -> x.read(2), Due.UNKNOWN);
-        refused(16, READ_ERRORS, "no ink without a game", () -> {
+        s.refused(16, READ_ERRORS, "unknown without a game", Rooms::house, x -> x.read(2), Due.UNKNOWN);
+        s.refused(16, READ_ERRORS, "unknown without time", () -> Rooms.gameWith(1, 0), x -> x.read(2), Due.UNKNOWN);
+        s.refused(16, READ_ERRORS, "no ink without a game", () -> {
             ResetRooms x = Rooms.house();
             x.idle(600);
             return x;
         }, x -> x.read(0), Due.NOT_POSSIBLE);
-        refused(16, READ_ERRORS, "no ink, not at hand", GameSentences::blankInBox, x -> x.read(1), Due.NOT_POSSIBLE);
-        refused(16, READ_ERRORS, "not at hand, no time", () -> Rooms.gameWith(1, 0), x -> x.read(1), Due.NOT_POSSIBLE);
-        refused(16, READ_ERRORS, "no ink, no time", () -> late(pale(0, 1)), x -> x.read(0), Due.NONE);
+        s.refused(16, READ_ERRORS, "no ink, not at hand", GameSentences::blankInBox, x -> x.read(1), Due.NOT_POSSIBLE);
+        s.refused(16, READ_ERRORS, "not at hand, no time", () -> Rooms.gameWith(1, 0), x -> x.read(1), Due.NOT_POSSIBLE);
+        s.refused(16, READ_ERRORS, "no ink, no time", () -> late(pale(0, 1)), x -> x.read(0), Due.NONE);
     }
 
     /** A game in which the clue 1 in the closed box 1 has no ink. */
@@ -669,13 +664,13 @@ final class GameSentences {
             s.is("the game goes on", x.count(14), 1);
         });
         for (int minutes : new int[] {0, -1, 61, Integer.MAX_VALUE, Integer.MIN_VALUE}) {
-            refused(17, "BAD_VALUE", "rest(" + minutes + ")", () -> Rooms.game(1), x -> x.rest(minutes), Due.BAD_VALUE);
+            s.refused(17, "BAD_VALUE", "rest(" + minutes + ")", () -> Rooms.game(1), x -> x.rest(minutes), Due.BAD_VALUE);
         }
-        refused(17, "NOT_POSSIBLE if there is no game", "no game", Rooms::house, x -> x.rest(1), Due.NOT_POSSIBLE);
-        refused(17, "NOT_POSSIBLE if there is no game", "after a game", Rooms::played, x -> x.rest(1), Due.NOT_POSSIBLE);
-        refused(17, REST_ERRORS, "0 without a game", Rooms::house, x -> x.rest(0), Due.BAD_VALUE);
-        refused(17, REST_ERRORS, "61 without a game", Rooms::house, x -> x.rest(61), Due.BAD_VALUE);
-        refused(17, REST_ERRORS, "61 without time", () -> Rooms.gameWith(1, 0), x -> x.rest(61), Due.BAD_VALUE);
+        s.refused(17, "NOT_POSSIBLE if there is no game", "no game", Rooms::house, x -> x.rest(1), Due.NOT_POSSIBLE);
+        s.refused(17, "NOT_POSSIBLE if there is no game", "after a game", Rooms::played, x -> x.rest(1), Due.NOT_POSSIBLE);
+        s.refused(17, REST_ERRORS, "0 without a game", Rooms::house, x -> x.rest(0), Due.BAD_VALUE);
+        s.refused(17, REST_ERRORS, "61 without a game", Rooms::house, x -> x.rest(61), Due.BAD_VALUE);
+        s.refused(17, REST_ERRORS, "61 without time", () -> Rooms.gameWith(1, 0), x -> x.rest(61), Due.BAD_VALUE);
     }
 
     private void nudge() {
@@ -742,10 +737,10 @@ final class GameSentences {
     }
 
     private void nudgeErrors() {
-        refused(18, "NOT_POSSIBLE if there is no game", "no game", Rooms::house, ResetRooms::nudge, Due.NOT_POSSIBLE);
-        refused(18, "FULL if the master was asked as often as can be", "a fourth nudge", () -> asked(3), ResetRooms::nudge,
+        s.refused(18, "NOT_POSSIBLE if there is no game", "no game", Rooms::house, ResetRooms::nudge, Due.NOT_POSSIBLE);
+        s.refused(18, "FULL if the master was asked as often as can be", "a fourth nudge", () -> asked(3), ResetRooms::nudge,
                 Due.FULL);
-        refused(18, "FULL if the master was asked as often as can be", "no nudges", () -> nudges(0), ResetRooms::nudge,
+        s.refused(18, "FULL if the master was asked as often as can be", "no nudges", () -> nudges(0), ResetRooms::nudge,
                 Due.FULL);
         s.test(18, "FULL if the master was asked as often as can be", () -> {
             for (int nudges = 0; nudges <= 9; nudges++) {
@@ -759,22 +754,22 @@ final class GameSentences {
                 s.is("in the next game", x.nudge(), nudges == 0 ? Due.FULL : 500);
             }
         });
-        refused(18, "NONE if there is no step", "no step", () -> Rooms.circle(1), ResetRooms::nudge, Due.NONE);
-        refused(18, NUDGE_ERRORS, "no game, no nudges", () -> {
+        s.refused(18, "NONE if there is no step", "no step", () -> Rooms.circle(1), ResetRooms::nudge, Due.NONE);
+        s.refused(18, NUDGE_ERRORS, "no game, no nudges", () -> {
             ResetRooms x = Rooms.house();
             x.setLimits(60, 0);
             return x;
         }, ResetRooms::nudge, Due.NOT_POSSIBLE);
-        refused(18, NUDGE_ERRORS, "no step, no nudges", () -> {
+        s.refused(18, NUDGE_ERRORS, "no step, no nudges", () -> {
             ResetRooms x = Rooms.circle(1);
             x.giveUp();
             x.setLimits(60, 0);
             Due.play(x, 1);
             return x;
         }, ResetRooms::nudge, Due.FULL);
-        refused(18, NUDGE_ERRORS, "no nudges, no time", () -> late(asked(3)), ResetRooms::nudge, Due.FULL);
-        refused(18, NUDGE_ERRORS, "no step, no time", () -> late(Rooms.circle(1)), ResetRooms::nudge, Due.NONE);
-        refused(18, NUDGE_ERRORS, "no step, no game", () -> {
+        s.refused(18, NUDGE_ERRORS, "no nudges, no time", () -> late(asked(3)), ResetRooms::nudge, Due.FULL);
+        s.refused(18, NUDGE_ERRORS, "no step, no time", () -> late(Rooms.circle(1)), ResetRooms::nudge, Due.NONE);
+        s.refused(18, NUDGE_ERRORS, "no step, no game", () -> {
             ResetRooms x = Rooms.circle(1);
             x.giveUp();
             return x;
@@ -820,7 +815,7 @@ final class GameSentences {
             s.is("minutes of the result", x.result(0, 3), 31);
             s.is("at the last minute", Rooms.gameWith(1, 0).giveUp(), 60);
         });
-        refused(19, "NOT_POSSIBLE if there is no game.", "no game", Rooms::house, ResetRooms::giveUp, Due.NOT_POSSIBLE);
-        refused(19, "NOT_POSSIBLE if there is no game.", "after a game", Rooms::played, ResetRooms::giveUp, Due.NOT_POSSIBLE);
+        s.refused(19, "NOT_POSSIBLE if there is no game.", "no game", Rooms::house, ResetRooms::giveUp, Due.NOT_POSSIBLE);
+        s.refused(19, "NOT_POSSIBLE if there is no game.", "after a game", Rooms::played, ResetRooms::giveUp, Due.NOT_POSSIBLE);
     }
 }

@@ -1,6 +1,3 @@
-import java.util.function.Supplier;
-import java.util.function.ToIntFunction;
-
 /** The sentences of the promises 20 to 26: what the master does between games, and snapshots. */
 final class MasterSentences {
     private static final String HOME_ERRORS = "UNKNOWN; NOT_POSSIBLE during a game; NONE if it lies at home.";
@@ -32,11 +29,6 @@ final class MasterSentences {
         keptInAGame();
     }
 
-    private void refused(int promise, String quote, String call, Supplier<ResetRooms> room, ToIntFunction<ResetRooms> made,
-            int want) {
-        s.test(promise, quote, () -> s.refused(call, room, made, want));
-    }
-
     private void idle() {
         s.test(20, "Lets minutes pass.", () -> {
             ResetRooms x = Rooms.house();
@@ -58,10 +50,10 @@ final class MasterSentences {
             }
         });
         for (int minutes : new int[] {0, -1, 1001, Integer.MAX_VALUE, Integer.MIN_VALUE}) {
-            refused(20, "BAD_VALUE", "idle(" + minutes + ")", Rooms::house, x -> x.idle(minutes), Due.BAD_VALUE);
+            s.refused(20, "BAD_VALUE", "idle(" + minutes + ")", Rooms::house, x -> x.idle(minutes), Due.BAD_VALUE);
         }
-        refused(20, "NOT_POSSIBLE during a game", "idle(1)", () -> Rooms.game(1), x -> x.idle(1), Due.NOT_POSSIBLE);
-        refused(20, "BAD_VALUE; NOT_POSSIBLE during a game.", "idle(0) during a game", () -> Rooms.game(1), x -> x.idle(0),
+        s.refused(20, "NOT_POSSIBLE during a game", "idle(1)", () -> Rooms.game(1), x -> x.idle(1), Due.NOT_POSSIBLE);
+        s.refused(20, "BAD_VALUE; NOT_POSSIBLE during a game.", "idle(0) during a game", () -> Rooms.game(1), x -> x.idle(0),
                 Due.BAD_VALUE);
     }
 
@@ -114,13 +106,13 @@ final class MasterSentences {
             s.is("the room", Rooms.played().putHome(2), 0);
         });
         for (int prop : new int[] {3, -1, Integer.MAX_VALUE, Integer.MIN_VALUE}) {
-            refused(21, "UNKNOWN", "putHome(" + prop + ")", Rooms::played, x -> x.putHome(prop), Due.UNKNOWN);
+            s.refused(21, "UNKNOWN", "putHome(" + prop + ")", Rooms::played, x -> x.putHome(prop), Due.UNKNOWN);
         }
-        refused(21, "NOT_POSSIBLE during a game", "a prop that is held", MasterSentences::heldFar, x -> x.putHome(2),
+        s.refused(21, "NOT_POSSIBLE during a game", "a prop that is held", MasterSentences::heldFar, x -> x.putHome(2),
                 Due.NOT_POSSIBLE);
-        refused(21, "NONE if it lies at home.", "putHome(0)", Rooms::played, x -> x.putHome(0), Due.NONE);
-        refused(21, HOME_ERRORS, "unknown during a game", () -> Rooms.game(1), x -> x.putHome(3), Due.UNKNOWN);
-        refused(21, HOME_ERRORS, "at home during a game", () -> Rooms.game(1), x -> x.putHome(0), Due.NOT_POSSIBLE);
+        s.refused(21, "NONE if it lies at home.", "putHome(0)", Rooms::played, x -> x.putHome(0), Due.NONE);
+        s.refused(21, HOME_ERRORS, "unknown during a game", () -> Rooms.game(1), x -> x.putHome(3), Due.UNKNOWN);
+        s.refused(21, HOME_ERRORS, "at home during a game", () -> Rooms.game(1), x -> x.putHome(0), Due.NOT_POSSIBLE);
     }
 
     /** A game in which the prop 2, whose home is the box 1, is held. */
@@ -152,15 +144,15 @@ final class MasterSentences {
             s.is("none", x.close(1), 0);
         });
         for (int box : new int[] {4, -1, Integer.MAX_VALUE, Integer.MIN_VALUE}) {
-            refused(22, "UNKNOWN", "close(" + box + ")", MasterSentences::threeOpen, x -> x.close(box), Due.UNKNOWN);
+            s.refused(22, "UNKNOWN", "close(" + box + ")", MasterSentences::threeOpen, x -> x.close(box), Due.UNKNOWN);
         }
-        refused(22, "BAD_VALUE for the room", "close(0)", MasterSentences::threeOpen, x -> x.close(0), Due.BAD_VALUE);
-        refused(22, "NOT_POSSIBLE during a game", "close(1)", MasterSentences::openInGame, x -> x.close(1), Due.NOT_POSSIBLE);
-        refused(22, "NONE if it is closed.", "close(4)", Rooms::played, x -> x.close(4), Due.NONE);
-        refused(22, "NONE if it is closed.", "a closed box in a closed one", Rooms::house, x -> x.close(2), Due.NONE);
-        refused(22, CLOSE_ERRORS, "unknown during a game", () -> Rooms.game(1), x -> x.close(5), Due.UNKNOWN);
-        refused(22, CLOSE_ERRORS, "the room during a game", () -> Rooms.game(1), x -> x.close(0), Due.BAD_VALUE);
-        refused(22, CLOSE_ERRORS, "closed during a game", () -> Rooms.game(1), x -> x.close(1), Due.NOT_POSSIBLE);
+        s.refused(22, "BAD_VALUE for the room", "close(0)", MasterSentences::threeOpen, x -> x.close(0), Due.BAD_VALUE);
+        s.refused(22, "NOT_POSSIBLE during a game", "close(1)", MasterSentences::openInGame, x -> x.close(1), Due.NOT_POSSIBLE);
+        s.refused(22, "NONE if it is closed.", "close(4)", Rooms::played, x -> x.close(4), Due.NONE);
+        s.refused(22, "NONE if it is closed.", "a closed box in a closed one", Rooms::house, x -> x.close(2), Due.NONE);
+        s.refused(22, CLOSE_ERRORS, "unknown during a game", () -> Rooms.game(1), x -> x.close(5), Due.UNKNOWN);
+        s.refused(22, CLOSE_ERRORS, "the room during a game", () -> Rooms.game(1), x -> x.close(0), Due.BAD_VALUE);
+        s.refused(22, CLOSE_ERRORS, "closed during a game", () -> Rooms.game(1), x -> x.close(1), Due.NOT_POSSIBLE);
     }
 
     private static ResetRooms openInGame() {
@@ -220,17 +212,17 @@ final class MasterSentences {
             }
         });
         for (int clue : new int[] {2, -1, Integer.MAX_VALUE, Integer.MIN_VALUE}) {
-            refused(23, "UNKNOWN", "writeOver(" + clue + ")", Rooms::house, x -> x.writeOver(clue), Due.UNKNOWN);
+            s.refused(23, "UNKNOWN", "writeOver(" + clue + ")", Rooms::house, x -> x.writeOver(clue), Due.UNKNOWN);
         }
         String reasons = "NOT_POSSIBLE during a game, or if there is not so much paint";
-        refused(23, reasons, "during a game", () -> {
+        s.refused(23, reasons, "during a game", () -> {
             ResetRooms x = faded(5, 9);
             Due.play(x, 1);
             return x;
         }, x -> x.writeOver(0), Due.NOT_POSSIBLE);
         for (int ink = 0; ink < 9; ink++) {
             int units = ink;
-            refused(23, reasons, "a unit of paint too little", () -> faded(units, 8 - units), x -> x.writeOver(0),
+            s.refused(23, reasons, "a unit of paint too little", () -> faded(units, 8 - units), x -> x.writeOver(0),
                     Due.NOT_POSSIBLE);
             s.test(23, reasons, () -> {
                 ResetRooms x = faded(units, 9 - units);
@@ -238,10 +230,10 @@ final class MasterSentences {
                 s.is("the paint that is left", x.count(6), 0);
             });
         }
-        refused(23, "NONE if it has 9 units of ink.", "with paint", () -> faded(9, 9), x -> x.writeOver(0), Due.NONE);
-        refused(23, "NONE if it has 9 units of ink.", "without paint", () -> faded(9, 0), x -> x.writeOver(0), Due.NONE);
-        refused(23, WRITE_ERRORS, "unknown during a game", () -> Rooms.game(1), x -> x.writeOver(2), Due.UNKNOWN);
-        refused(23, WRITE_ERRORS, "9 units during a game", () -> Rooms.game(1), x -> x.writeOver(0), Due.NOT_POSSIBLE);
+        s.refused(23, "NONE if it has 9 units of ink.", "with paint", () -> faded(9, 9), x -> x.writeOver(0), Due.NONE);
+        s.refused(23, "NONE if it has 9 units of ink.", "without paint", () -> faded(9, 0), x -> x.writeOver(0), Due.NONE);
+        s.refused(23, WRITE_ERRORS, "unknown during a game", () -> Rooms.game(1), x -> x.writeOver(2), Due.UNKNOWN);
+        s.refused(23, WRITE_ERRORS, "9 units during a game", () -> Rooms.game(1), x -> x.writeOver(0), Due.NOT_POSSIBLE);
     }
 
     private void reset() {
@@ -298,11 +290,11 @@ final class MasterSentences {
             s.is("the clock", x.count(5), 12);
             s.is("again", x.reset(), Due.NONE);
         });
-        refused(24, "NOT_POSSIBLE during a game", "reset()", MasterSentences::heldFar, ResetRooms::reset, Due.NOT_POSSIBLE);
-        refused(24, "NONE if there is nothing to do.", "a room as at first", Rooms::house, ResetRooms::reset, Due.NONE);
-        refused(24, "NONE if there is nothing to do.", "4 units of ink", () -> faded(4, 9), ResetRooms::reset, Due.NONE);
-        refused(24, "NONE if there is nothing to do.", "no paint for it", () -> faded(3, 5), ResetRooms::reset, Due.NONE);
-        refused(24, "NOT_POSSIBLE during a game; NONE if there is nothing to do.", "nothing to do, during a game",
+        s.refused(24, "NOT_POSSIBLE during a game", "reset()", MasterSentences::heldFar, ResetRooms::reset, Due.NOT_POSSIBLE);
+        s.refused(24, "NONE if there is nothing to do.", "a room as at first", Rooms::house, ResetRooms::reset, Due.NONE);
+        s.refused(24, "NONE if there is nothing to do.", "4 units of ink", () -> faded(4, 9), ResetRooms::reset, Due.NONE);
+        s.refused(24, "NONE if there is nothing to do.", "no paint for it", () -> faded(3, 5), ResetRooms::reset, Due.NONE);
+        s.refused(24, "NOT_POSSIBLE during a game; NONE if there is nothing to do.", "nothing to do, during a game",
                 () -> Rooms.game(1), ResetRooms::reset, Due.NOT_POSSIBLE);
     }
 
@@ -430,7 +422,7 @@ final class MasterSentences {
             s.is("during a game", x.keep(1), 20);
         });
         for (int slot : new int[] {2, -1, 32, Integer.MAX_VALUE, Integer.MIN_VALUE}) {
-            refused(25, "UNKNOWN.", "keep(" + slot + ")", Rooms::played, x -> x.keep(slot), Due.UNKNOWN);
+            s.refused(25, "UNKNOWN.", "keep(" + slot + ")", Rooms::played, x -> x.keep(slot), Due.UNKNOWN);
         }
     }
 
@@ -477,13 +469,13 @@ final class MasterSentences {
             s.is("the clock", x.count(5), 10);
         });
         for (int slot : new int[] {2, -1, 32, Integer.MAX_VALUE, Integer.MIN_VALUE}) {
-            refused(26, "UNKNOWN", "restore(" + slot + ")", MasterSentences::kept, x -> x.restore(slot), Due.UNKNOWN);
-            refused(26, "UNKNOWN; NONE if there is no such snapshot.", "restore(" + slot + ") without snapshots", Rooms::house,
+            s.refused(26, "UNKNOWN", "restore(" + slot + ")", MasterSentences::kept, x -> x.restore(slot), Due.UNKNOWN);
+            s.refused(26, "UNKNOWN; NONE if there is no such snapshot.", "restore(" + slot + ") without snapshots", Rooms::house,
                     x -> x.restore(slot), Due.UNKNOWN);
         }
-        refused(26, "NONE if there is no such snapshot.", "restore(0)", Rooms::played, x -> x.restore(0), Due.NONE);
-        refused(26, "NONE if there is no such snapshot.", "restore(1)", Rooms::played, x -> x.restore(1), Due.NONE);
-        refused(26, "NONE if there is no such snapshot.", "the other slot", () -> {
+        s.refused(26, "NONE if there is no such snapshot.", "restore(0)", Rooms::played, x -> x.restore(0), Due.NONE);
+        s.refused(26, "NONE if there is no such snapshot.", "restore(1)", Rooms::played, x -> x.restore(1), Due.NONE);
+        s.refused(26, "NONE if there is no such snapshot.", "the other slot", () -> {
             ResetRooms x = Rooms.house();
             x.keep(1);
             return x;

@@ -47,7 +47,7 @@ final class Sentences {
         due.is(label + call, got, want);
     }
 
-    /** The call gives this error, NONE, or what else changes nothing; the room is as its twin without the call. */
+    /** The call gives this error or NONE and changes nothing: the room is as its twin without the call. */
     void refused(String call, Supplier<ResetRooms> room, ToIntFunction<ResetRooms> made, int want) {
         ResetRooms x = room.get();
         is(call, made.applyAsInt(x), want);
@@ -55,8 +55,8 @@ final class Sentences {
     }
 
     /** A test with one refused call alone. */
-    void refusal(int promise, String quote, Supplier<ResetRooms> room, ToIntFunction<ResetRooms> made, int want) {
-        test(promise, quote, () -> refused("the call", room, made, want));
+    void refused(int promise, String quote, String call, Supplier<ResetRooms> room, ToIntFunction<ResetRooms> made, int want) {
+        test(promise, quote, () -> refused(call, room, made, want));
     }
 
     void end() {

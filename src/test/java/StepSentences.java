@@ -21,6 +21,7 @@ final class StepSentences {
     void run() {
         circles();
         longWay();
+        longWayUp();
         boxesAround();
         latchesAndKeys();
         places();
@@ -105,6 +106,31 @@ final class StepSentences {
                 s.is("read", x.read(box - 2), 1);
                 step("for the box " + box, x, 501);
                 s.is("open", x.open(box, 1234), box == 11 ? 2 : 1);
+            }
+        });
+    }
+
+    private void longWayUp() {
+        terms("The next step for a box is found by these rules.", () -> {
+            ResetRooms x = new ResetRooms();
+            Due.type(x, "0 code 1234");
+            for (int box = 1; box <= 10; box++) {
+                x.addBox();
+            }
+            Due.box(x, "0 latch");
+            for (int box = 2; box <= 11; box++) {
+                x.addProp(box);
+                x.addClue(box - 2, box - 1, 0);
+            }
+            x.setExit(1);
+            Due.play(x, 6);
+            step("over eleven boxes with higher and higher numbers", x, 311);
+            x.open(11, 0);
+            for (int box = 10; box >= 1; box--) {
+                step("for the box " + box, x, 399 + box);
+                x.read(box - 1);
+                step("for the box " + box + " with its first digit known", x, 501);
+                s.is("open", x.open(box, 1234), box == 1 ? 2 : 1);
             }
         });
     }

@@ -1,4 +1,3 @@
-import java.util.function.Supplier;
 import java.util.function.ToIntFunction;
 
 /** The sentences of the promises 27 to 37: what is told. */
@@ -33,11 +32,6 @@ final class ToldSentences {
         count();
         behind();
         ranges();
-    }
-
-    private void refused(int promise, String quote, String call, Supplier<ResetRooms> room, ToIntFunction<ResetRooms> made,
-            int want) {
-        s.test(promise, quote, () -> s.refused(call, room, made, want));
     }
 
     private void box() {
@@ -337,13 +331,13 @@ final class ToldSentences {
         });
         for (int what = 0; what <= 5; what++) {
             int number = what;
-            refused(30, "NOT_POSSIBLE if there is no game.", "game(" + what + ")", Rooms::house, x -> x.game(number),
+            s.refused(30, "NOT_POSSIBLE if there is no game.", "game(" + what + ")", Rooms::house, x -> x.game(number),
                     Due.NOT_POSSIBLE);
-            refused(30, "NOT_POSSIBLE if there is no game.", "game(" + what + ") after one", Rooms::played, x -> x.game(number),
+            s.refused(30, "NOT_POSSIBLE if there is no game.", "game(" + what + ") after one", Rooms::played, x -> x.game(number),
                     Due.NOT_POSSIBLE);
         }
         for (int what : new int[] {-1, 6, Integer.MAX_VALUE, Integer.MIN_VALUE}) {
-            refused(30, "BAD_VALUE; NOT_POSSIBLE if there is no game.", "game(" + what + ") without one", Rooms::house,
+            s.refused(30, "BAD_VALUE; NOT_POSSIBLE if there is no game.", "game(" + what + ") without one", Rooms::house,
                     x -> x.game(what), Due.BAD_VALUE);
         }
     }
@@ -425,11 +419,11 @@ final class ToldSentences {
             starts("at 45, it starts now", x, 45, 88);
         });
         for (int group : new int[] {-1, 5, Integer.MAX_VALUE, Integer.MIN_VALUE}) {
-            refused(31, "UNKNOWN", "group(" + group + ", 0)", ToldSentences::waiting, x -> x.group(group, 0), Due.UNKNOWN);
-            refused(31, "UNKNOWN; BAD_VALUE.", "group(" + group + ", 3)", ToldSentences::waiting, x -> x.group(group, 3),
+            s.refused(31, "UNKNOWN", "group(" + group + ", 0)", ToldSentences::waiting, x -> x.group(group, 0), Due.UNKNOWN);
+            s.refused(31, "UNKNOWN; BAD_VALUE.", "group(" + group + ", 3)", ToldSentences::waiting, x -> x.group(group, 3),
                     Due.UNKNOWN);
         }
-        refused(31, "UNKNOWN", "no group waits", Rooms::house, x -> x.group(0, 0), Due.UNKNOWN);
+        s.refused(31, "UNKNOWN", "no group waits", Rooms::house, x -> x.group(0, 0), Due.UNKNOWN);
     }
 
     private void result() {
@@ -470,12 +464,12 @@ final class ToldSentences {
             s.is("result(30, 0)", x.result(30, 0), Due.UNKNOWN);
         });
         for (int result : new int[] {-1, 2, Integer.MAX_VALUE, Integer.MIN_VALUE}) {
-            refused(32, "UNKNOWN", "result(" + result + ", 0)", ToldSentences::twoResults, x -> x.result(result, 0),
+            s.refused(32, "UNKNOWN", "result(" + result + ", 0)", ToldSentences::twoResults, x -> x.result(result, 0),
                     Due.UNKNOWN);
-            refused(32, "UNKNOWN; BAD_VALUE.", "result(" + result + ", 7)", ToldSentences::twoResults, x -> x.result(result, 7),
+            s.refused(32, "UNKNOWN; BAD_VALUE.", "result(" + result + ", 7)", ToldSentences::twoResults, x -> x.result(result, 7),
                     Due.UNKNOWN);
         }
-        refused(32, "UNKNOWN", "the present game has none", () -> Rooms.game(1), x -> x.result(0, 0), Due.UNKNOWN);
+        s.refused(32, "UNKNOWN", "the present game has none", () -> Rooms.game(1), x -> x.result(0, 0), Due.UNKNOWN);
     }
 
     /** A game of two players that gave up, and one of five, who won. */
@@ -520,10 +514,10 @@ final class ToldSentences {
             x.rest(60);
             s.is("without minutes", x.nextStep(), 500);
         });
-        refused(33, "NOT_POSSIBLE if there is no game", "no game", Rooms::house, ResetRooms::nextStep, Due.NOT_POSSIBLE);
-        refused(33, "NOT_POSSIBLE if there is no game", "no exit", ResetRooms::new, ResetRooms::nextStep, Due.NOT_POSSIBLE);
-        refused(33, "NONE if there is none.", "no step", () -> Rooms.circle(1), ResetRooms::nextStep, Due.NONE);
-        refused(33, "NOT_POSSIBLE if there is no game; NONE if there is none.", "no step, no game", () -> {
+        s.refused(33, "NOT_POSSIBLE if there is no game", "no game", Rooms::house, ResetRooms::nextStep, Due.NOT_POSSIBLE);
+        s.refused(33, "NOT_POSSIBLE if there is no game", "no exit", ResetRooms::new, ResetRooms::nextStep, Due.NOT_POSSIBLE);
+        s.refused(33, "NONE if there is none.", "no step", () -> Rooms.circle(1), ResetRooms::nextStep, Due.NONE);
+        s.refused(33, "NOT_POSSIBLE if there is no game; NONE if there is none.", "no step, no game", () -> {
             ResetRooms x = Rooms.circle(1);
             x.giveUp();
             return x;
@@ -539,10 +533,10 @@ final class ToldSentences {
             }
         });
         for (int players : new int[] {0, 7, -1, Integer.MAX_VALUE, Integer.MIN_VALUE}) {
-            refused(34, "BAD_VALUE", "plan(" + players + ")", Rooms::house, x -> x.plan(players), Due.BAD_VALUE);
-            refused(34, "BAD_VALUE; NOT_POSSIBLE during a game or without an exit", "plan(" + players + ") without an exit",
+            s.refused(34, "BAD_VALUE", "plan(" + players + ")", Rooms::house, x -> x.plan(players), Due.BAD_VALUE);
+            s.refused(34, "BAD_VALUE; NOT_POSSIBLE during a game or without an exit", "plan(" + players + ") without an exit",
                     ResetRooms::new, x -> x.plan(players), Due.BAD_VALUE);
-            refused(34, "BAD_VALUE; NOT_POSSIBLE during a game or without an exit", "plan(" + players + ") during a game",
+            s.refused(34, "BAD_VALUE; NOT_POSSIBLE during a game or without an exit", "plan(" + players + ") during a game",
                     () -> Rooms.game(1), x -> x.plan(players), Due.BAD_VALUE);
         }
         s.test(34, "Returns the minutes, 0 if the exit is open", () -> {
@@ -559,19 +553,19 @@ final class ToldSentences {
             s.is("the exit is open in a closed box", y.plan(1), 0);
         });
         String reasons = "NOT_POSSIBLE during a game or without an exit";
-        refused(34, reasons, "during a game", () -> Rooms.game(1), x -> x.plan(1), Due.NOT_POSSIBLE);
-        refused(34, reasons, "without boxes", ResetRooms::new, x -> x.plan(1), Due.NOT_POSSIBLE);
-        refused(34, reasons, "without an exit", () -> {
+        s.refused(34, reasons, "during a game", () -> Rooms.game(1), x -> x.plan(1), Due.NOT_POSSIBLE);
+        s.refused(34, reasons, "without boxes", ResetRooms::new, x -> x.plan(1), Due.NOT_POSSIBLE);
+        s.refused(34, reasons, "without an exit", () -> {
             ResetRooms x = new ResetRooms();
             Due.box(x, "0 latch");
             return x;
         }, x -> x.plan(1), Due.NOT_POSSIBLE);
-        refused(34, "NONE if it comes to where there is no step.", "a circle", () -> {
+        s.refused(34, "NONE if it comes to where there is no step.", "a circle", () -> {
             ResetRooms x = Rooms.circle(1);
             x.giveUp();
             return x;
         }, x -> x.plan(1), Due.NONE);
-        refused(34, "NOT_POSSIBLE during a game or without an exit; NONE if it comes to where there is no step.",
+        s.refused(34, "NOT_POSSIBLE during a game or without an exit; NONE if it comes to where there is no step.",
                 "a circle during a game", () -> Rooms.circle(1), x -> x.plan(1), Due.NOT_POSSIBLE);
         s.test(34, "NONE if it comes to where there is no step.", () -> {
             ResetRooms x = Rooms.of("0 latch", "0 code 1234");
@@ -767,15 +761,15 @@ final class ToldSentences {
             s.is("/", x.logAt(8), 47);
         });
         for (int index : new int[] {-1, -2, Integer.MIN_VALUE}) {
-            refused(36, "BAD_VALUE if index is negative", "logAt(" + index + ")", Rooms::played, x -> x.logAt(index),
+            s.refused(36, "BAD_VALUE if index is negative", "logAt(" + index + ")", Rooms::played, x -> x.logAt(index),
                     Due.BAD_VALUE);
-            refused(36, "BAD_VALUE if index is negative; NONE if it is not so long.", "logAt(" + index + ") of an empty log",
+            s.refused(36, "BAD_VALUE if index is negative; NONE if it is not so long.", "logAt(" + index + ") of an empty log",
                     Rooms::house, x -> x.logAt(index), Due.BAD_VALUE);
         }
         for (int index : new int[] {33, 34, 2047, 2048, 5000, Integer.MAX_VALUE}) {
-            refused(36, "NONE if it is not so long.", "logAt(" + index + ")", Rooms::played, x -> x.logAt(index), Due.NONE);
+            s.refused(36, "NONE if it is not so long.", "logAt(" + index + ")", Rooms::played, x -> x.logAt(index), Due.NONE);
         }
-        refused(36, "NONE if it is not so long.", "an empty log", Rooms::house, x -> x.logAt(0), Due.NONE);
+        s.refused(36, "NONE if it is not so long.", "an empty log", Rooms::house, x -> x.logAt(0), Due.NONE);
         s.test(36, "NONE if it is not so long.", () -> {
             ResetRooms x = Rooms.played();
             s.is("the last character", x.logAt(32), '/');
@@ -861,13 +855,13 @@ final class ToldSentences {
         }
         for (int what : new int[] {-1, 6, Integer.MAX_VALUE, Integer.MIN_VALUE}) {
             badWhat(29, "BAD_VALUE", "clue(0, " + what + ")", x -> x.clue(0, what));
-            refused(30, "BAD_VALUE", "game(" + what + ")", () -> Rooms.game(1), x -> x.game(what), Due.BAD_VALUE);
+            s.refused(30, "BAD_VALUE", "game(" + what + ")", () -> Rooms.game(1), x -> x.game(what), Due.BAD_VALUE);
         }
         for (int what : new int[] {-1, 3, Integer.MAX_VALUE, Integer.MIN_VALUE}) {
-            refused(31, "BAD_VALUE", "group(0, " + what + ")", ToldSentences::waiting, x -> x.group(0, what), Due.BAD_VALUE);
+            s.refused(31, "BAD_VALUE", "group(0, " + what + ")", ToldSentences::waiting, x -> x.group(0, what), Due.BAD_VALUE);
         }
         for (int what : new int[] {-1, 7, Integer.MAX_VALUE, Integer.MIN_VALUE}) {
-            refused(32, "BAD_VALUE", "result(0, " + what + ")", ToldSentences::twoResults, x -> x.result(0, what), Due.BAD_VALUE);
+            s.refused(32, "BAD_VALUE", "result(0, " + what + ")", ToldSentences::twoResults, x -> x.result(0, what), Due.BAD_VALUE);
         }
         for (int what : new int[] {-1, 15, Integer.MAX_VALUE, Integer.MIN_VALUE}) {
             badWhat(37, "BAD_VALUE", "count(" + what + ")", x -> x.count(what));
@@ -882,11 +876,11 @@ final class ToldSentences {
     }
 
     private void badWhat(int promise, String quote, String call, ToIntFunction<ResetRooms> made) {
-        refused(promise, quote, call, Rooms::house, made, Due.BAD_VALUE);
+        s.refused(promise, quote, call, Rooms::house, made, Due.BAD_VALUE);
     }
 
     private void unknown(int promise, String call, ToIntFunction<ResetRooms> good, ToIntFunction<ResetRooms> bad) {
-        refused(promise, "UNKNOWN", call + ", 0)", Rooms::house, good, Due.UNKNOWN);
-        refused(promise, "UNKNOWN; BAD_VALUE.", call + ", what that is out of range)", Rooms::house, bad, Due.UNKNOWN);
+        s.refused(promise, "UNKNOWN", call + ", 0)", Rooms::house, good, Due.UNKNOWN);
+        s.refused(promise, "UNKNOWN; BAD_VALUE.", call + ", what that is out of range)", Rooms::house, bad, Due.UNKNOWN);
     }
 }
