@@ -856,11 +856,10 @@ public final class ResetRooms {
             if (isOpen(box) || !boxAtHand(box)) {
                 return false;
             }
-            int place = at(lies, at(item, box));
             if (hasLock(box, KEY)) {
-                return place == HELD;
+                return isHeld(at(item, box));
             }
-            return !hasLock(box, PLATE) || place == at(outer, box);
+            return !hasLock(box, PLATE) || at(lies, at(item, box)) == at(outer, box);
         }
 
         int propsIn(int box) {
