@@ -30,15 +30,18 @@ final class Compiled {
         files.add(path.toString());
     }
 
-    /** Compiles the files and runs the main method of a class among them. */
-    void run(String name) throws IOException, ReflectiveOperationException {
+    void compile() {
         List<String> words = new ArrayList<>(List.of("-proc:none", "-encoding", "UTF-8", "-d", folder.toString(),
                 "-cp", folder.toString()));
         words.addAll(files);
         int failed = ToolProvider.getSystemJavaCompiler().run(null, null, null, words.toArray(new String[0]));
         if (failed != 0) {
-            throw new IllegalStateException(name + " does not compile");
+            throw new IllegalStateException("the files in " + folder + " do not compile");
         }
+    }
+
+    /** Runs the main method of a compiled class. */
+    void run(String name) throws IOException, ReflectiveOperationException {
         // No parent but the library: the classes of the test itself must not stand in for those of the folder.
         try (URLClassLoader loader = new URLClassLoader(new URL[] {folder.toUri().toURL()},
                 ClassLoader.getPlatformClassLoader())) {

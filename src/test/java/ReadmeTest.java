@@ -50,6 +50,7 @@ final class ReadmeTest {
             System.setOut(new PrintStream(bytes, true));
             play.file("Play.java", program);
             play.file(Compiled.PROGRAM);
+            play.compile();
             play.run("Play");
         } finally {
             System.setOut(out);
